@@ -676,12 +676,12 @@ public final class MapLife {
         }
 
         private void forgetFirst() {
-            // The forgotten life is used again behind the others: nothing new is made.
-            Life first = lives[0];
+            // The forgotten life wanders behind the others to be used again: nothing new is made.
             for (int i = 1; i < lives.length; i++) {
+                Life earlier = lives[i - 1];
                 lives[i - 1] = lives[i];
+                lives[i] = earlier;
             }
-            lives[lives.length - 1] = first;
             count = lives.length - 1;
         }
 

@@ -166,9 +166,16 @@ public final class Promises {
         due("again(0)", x.again(0), LATE);
         due("again(1)", x.again(1), LATE);
         due("seed(1)", x.seed(1), 7);
+        x.go(3);
+        x.go(1);
         x.wipe();
+        due("HARM", x.about(3), 1);
         write(x, "M3444444444444");
         due("map() without SIGNS", x.map(), 0);
+        for (int i = 0; i < 12; i++) {
+            due("cell(" + i + ", 0) of the other map", x.cell(i, 0), 4);
+            due("cell(" + i + ", 1) of the other map", x.cell(i, 1), 0);
+        }
         dueState("without SIGNS", x, 0, 0, 3, 0, 0, 0, 0, 0, 14);
         due("cell(11, 0)", x.cell(11, 0), 4);
         due("cell(1, 1)", x.cell(1, 1), 0);
@@ -377,6 +384,30 @@ public final class Promises {
         due("cell(1, 1)", x.cell(1, 1), 1);
     }
 
+    /** Each of fourteen undone ACTS finds the FOOD and place that were ahead of it. */
+    private static void undoingMany() {
+        MapLife x = made("M9111111111111Da1Db1Dc1Dd1De1Df1Dg1Dh1");
+        int[] ways = {3, 3, 3, 4, 1, 2, 2, 4, 2, 0, 4, 3, 4, 1, 0, 2, 1, 4};
+        int[] food = new int[ways.length];
+        int[] place = new int[ways.length];
+        int[] taken = new int[ways.length];
+        for (int i = 0; i < ways.length; i++) {
+            food[i] = x.about(2);
+            place[i] = x.about(1);
+            taken[i] = x.about(4);
+            due("act " + i, (ways[i] == 4 ? x.rest() : x.go(ways[i])) >= 0 ? 1 : 0, 1);
+            due("about(7)", x.about(7), Math.min(14, i + 1));
+        }
+        for (int i = 13; i >= 0; i--) {
+            due("undo()", x.undo(), i);
+            dueState("undone to " + (i + 4), x, 8, place[i + 4], food[i + 4], 0, taken[i + 4], i + 4, 0, i);
+        }
+        due("undo() of the forgotten", x.undo(), LATE);
+        x.rest();
+        due("undo()", x.undo(), 0);
+        due("about(2)", x.about(2), food[4]);
+    }
+
     private static void roads() {
         promise = 13;
         MapLife x = made("M0000004000000Db1Dc2Dd3Df1Dg2De3Dj4");
@@ -409,6 +440,15 @@ public final class Promises {
         due("road(8)", x.road(8, false, false), 8);
         due("road(8) row", x.road(8, false, true), 133311222);
         due("road(8) row truly", x.road(8, true, true), 133311222);
+        x = made("M9000000000000Da1Db1Dc1Dg1Dk1");
+        x.go(3);
+        x.go(3);
+        x.go(1);
+        x.go(1);
+        due("road(0) from afar", x.road(0, false, false), 4);
+        due("road(0) from afar, row", x.road(0, true, true), 10022);
+        x.rub(0);
+        due("road(0), BLANK again", x.road(0, true, true), NONE);
     }
 
     private static void mosts() {
@@ -443,6 +483,10 @@ public final class Promises {
         due("most(5)", x.most(5, false), 0);
         due("most(5) row", x.most(5, true), 134444);
         x.go(3);
+        x.draw(0, 1);
+        due("down, then up", made("M9100011000000De1Da1").most(2, true), 110);
+        due("what is TAKEN gives nothing", x.most(1, false), 4);
+        x.undo();
         due("what is TAKEN gives nothing", x.most(1, false), 3);
         due("about(2)", x.about(2), 4);
     }
@@ -592,6 +636,11 @@ public final class Promises {
         dueShare(x, 1, 7, 2);
         dueShare(x, 2, 1, 1);
         dueShare(x, 4, 1, 2);
+        // CELL 0, that he left for the SPRING beside it, counts like the others.
+        x = made("M5110000000000Da1Db1");
+        x.go(3);
+        dueShare(x, 0, 3, 1);
+        dueShare(x, 1, 0, 1);
         x = made("M9111111111111Db1Dc2Dd3De1Df2Dg3Dh1Di2");
         int sum = 0;
         int below = 5040;
@@ -781,6 +830,7 @@ public final class Promises {
         drawing();
         rubbing();
         undoing();
+        undoingMany();
         roads();
         mosts();
         mending();
