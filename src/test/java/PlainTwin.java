@@ -11,6 +11,8 @@ import java.util.Random;
  */
 public final class PlainTwin {
     private static final int UNKNOWN = -1, BAD = -2, LATE = -3, FULL = -4, NONE = -9;
+    /** What an object answers behind so many calls is free. */
+    private static final int MOST_CALLS = 512;
     private static final int[] GOOD = {0, 3, 2, 1, 0};
 
     /** Where the master is and what he has. */
@@ -799,7 +801,9 @@ public final class PlainTwin {
         MapLife a = new MapLife();
         PlainTwin b = new PlainTwin();
         int most = any(3, 8);
-        for (int i = 0; i < 70; i++) {
+        long last = calls + MOST_CALLS;
+        // A step takes some 170 calls at most.
+        for (int i = 0; i < 70 && calls + 175 < last; i++) {
             int kind = any(0, 19);
             if (i == 1 || kind == 0) {
                 newMap(g, a, b, most);
@@ -816,10 +820,13 @@ public final class PlainTwin {
                 look(g, a, b);
             }
         }
+        while (calls < last) {
+            actCall(g, a, b);
+        }
     }
 
     public static void main(String[] args) {
-        int runs = args.length > 1 ? Integer.parseInt(args[1]) : 1500;
+        int runs = args.length > 1 ? Integer.parseInt(args[1]) : 2500;
         for (long g = 1; g <= runs && wrongs < 40; g++) {
             runOf(g);
         }
