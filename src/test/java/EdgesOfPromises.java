@@ -204,6 +204,23 @@ public final class EdgesOfPromises {
         dueMost(x, 5, 13, 131011);
     }
 
+    private static void mostRowsOfNDays() {
+        says("MOST: of all rows of WAYS and RESTS (4), one each DAY");
+        // Each true HUT gives back what the DAY costs: more DAYS have as much FOOD, but longer rows.
+        MapLife x = mapped("M9" + "333300030000" + "Da3Db3Dc3Dd3Dh3");
+        dueMost(x, 1, 9, 13);
+        dueMost(x, 2, 9, 132);
+        dueMost(x, 3, 9, 1333);
+        dueMost(x, 4, 9, 13331);
+        dueMost(x, 5, 8, 132333);
+        x = mapped("M9" + "033300030000" + "Db3Dc3Dd3Dh3");
+        dueMost(x, 1, 9, 13);
+        dueMost(x, 2, 9, 133);
+        dueMost(x, 3, 9, 1333);
+        dueMost(x, 4, 9, 13331);
+        dueMost(x, 5, 8, 133310);
+    }
+
     // ---- mends
 
     private static void mendsDays() {
@@ -867,6 +884,7 @@ public final class EdgesOfPromises {
         mostWithoutFood();
         mostOfLikeOnes();
         mostRows();
+        mostRowsOfNDays();
         mendsDays();
         mendsNone();
         mendedToBlank();
